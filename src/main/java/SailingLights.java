@@ -1597,7 +1597,6 @@ public final class SailingLights {
             }
             behind = place;
             if (place >= length) {
-                place = length;
                 kind = END;
             } else if (isLetter(text[place])) {
                 kind = WORD;

@@ -147,6 +147,43 @@ final class ActsTest {
         }
         DUE.is("no more", x.undo(), -1);
         DUE.is("the oldest are gone", x.light(0, 2), 5);
+        mixedActs();
+    }
+
+    /** Of 49 acts of all kinds forty are kept; with these undone all is as behind the first nine. */
+    private static void mixedActs() {
+        SailingLights x = DUE.of(COAST);
+        SailingLights nine = DUE.of(COAST);
+        for (int i = 0; i < 49; i++) {
+            drawnAct(x, i);
+            if (i < 9) {
+                drawnAct(nine, i);
+            }
+        }
+        DUE.is("none was refused", x.count(11), 0);
+        for (int i = 39; i >= 0; i--) {
+            DUE.is("left", x.undo(), i);
+        }
+        DUE.is("no more", x.undo(), -1);
+        for (int which = 0; which < 2; which++) {
+            DUE.is("begins " + which, x.light(which, 0), nine.light(which, 0));
+            DUE.is("oil " + which, x.light(which, 2), nine.light(which, 2));
+            DUE.is("moored " + which, x.ship(which, 0), nine.ship(which, 0));
+            DUE.is("want " + which, x.ship(which, 1), nine.ship(which, 1));
+        }
+        DUE.is("law", x.count(6), nine.count(6));
+    }
+
+    private static void drawnAct(SailingLights x, int i) {
+        int which = i % 2;
+        int cell = 12 + i % 5 + which * 6;
+        switch (i * i % 7 + i % 3) {
+            case 0: case 5: x.fill(which, i); break;
+            case 1: case 6: x.moor(which, cell); break;
+            case 2: case 4: x.push(which, cell); break;
+            case 3: x.obey(i % 3 - 1); break;
+            default: x.want(which, i % 13); break;
+        }
     }
 
     private static void log() {
@@ -245,5 +282,36 @@ final class ActsTest {
         x.restore();
         DUE.is("in place of another one", x.light(0, 2), 7);
         DUE.is("two acts", x.count(7), 2);
+        imageKeepsActsAndLog();
+    }
+
+    /** Acts and log entries that were put in the places of those in the image don't change them. */
+    private static void imageKeepsActsAndLog() {
+        SailingLights x = DUE.of(COAST);
+        x.fill(0, 50);
+        x.want(1, 7);
+        x.log(0, 12, 1, false);
+        x.log(1, 12, 0, true);
+        x.image();
+        x.undo();
+        x.undo();
+        x.moor(1, 3);
+        x.push(0, 4);
+        x.obey(-1);
+        x.forget();
+        x.log(1, 13, 0, false);
+        x.log(0, 14, 0, false);
+        x.log(0, 14, 0, false);
+        DUE.is("three are false", x.falsely(), 3);
+        x.restore();
+        DUE.is("none is false", x.falsely(), 0);
+        DUE.is("the want", x.ship(1, 1), 7);
+        DUE.is("undo the want", x.undo(), 1);
+        DUE.is("the want as it was", x.ship(1, 1), 12);
+        DUE.is("the oil", x.light(0, 2), 50);
+        DUE.is("undo the oil", x.undo(), 0);
+        DUE.is("the oil as it was", x.light(0, 2), 100);
+        DUE.is("the ship", x.ship(1, 0), 11);
+        DUE.is("the light", x.light(0, 0), 0);
     }
 }

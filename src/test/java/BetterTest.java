@@ -57,6 +57,8 @@ final class BetterTest {
         DUE.is("all alike: not where the other is", y.mooring(0, 1, 0), 2);
         DUE.is("none", y.mooring(0, 1, 1), 0);
         DUE.is("nothing was moored", y.ship(1, 0), 0);
+        SailingLights fog = DUE.of("sea 6 1;light 5 0 3 99 0 o l;ship 0 0 0;fog 1;");
+        DUE.is("nearer in a fog", fog.mooring(0, 0, 0), 3);
         DUE.is("behind a cape", DUE.of("sea 4 1;cape 1 0;light 0 0 9 99 0 o l;ship 3 0 0;").mooring(0, 0, 0), 0);
     }
 
@@ -76,6 +78,12 @@ final class BetterTest {
         SailingLights z = DUE.of("sea 9 1;light 0 0 1 0 0 o l;light 2 0 1 0 0 o l;light 1 0 1 200 0 o l;ship 1 0 0;");
         DUE.is("a third one is seen there", z.game(0, 1, 0, 1, 0), 1);
         DUE.is("so neither burns", z.game(0, 1, 0, 1, 1), 0);
+        SailingLights nobody = DUE.of("light 0 0 1 0 0 o l;light 2 0 1 0 0 o l;");
+        DUE.is("nothing to gain or to lose: all", nobody.game(0, 1, 0, 0, 0), 4);
+        DUE.is("neither is the first", nobody.game(0, 1, 0, 0, 1), 0);
+        SailingLights fog = DUE.of("light 0 0 3 0 0 o l;light 7 7 3 0 0 o l;ship 3 0 0;fog 0 1;");
+        DUE.is("seen without a fog", fog.game(0, 1, 0, 1, 1), 10);
+        DUE.is("not in a fog", fog.game(0, 1, 1, 1, 1), 0);
         DUE.missing("what ahead", () -> x.game(0, 0, 0, 100, 2));
         DUE.missing("night ahead", () -> x.game(0, 0, 10, 100, 0));
         DUE.missing("light ahead", () -> x.game(2, 2, 0, 100, 0));

@@ -88,6 +88,7 @@ final class FaceTest {
                 Modifier.isStatic(modifiers) && !Modifier.isPublic(modifiers) && !Modifier.isProtected(modifiers), true);
             for (Method m : c.getDeclaredMethods()) {
                 DUE.is(m + " has at most seven parameters", m.getParameterCount() <= 7, true);
+                DUE.is(m + " has no name of the face", (" " + FACE).contains(" " + m.getName() + "("), false);
             }
         }
     }

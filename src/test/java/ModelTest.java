@@ -23,6 +23,7 @@ final class ModelTest {
         int texts = args.length > 1 ? Integer.parseInt(args[1]) : 20000;
         long seed = args.length > 2 ? Long.parseLong(args[2]) : 1;
         ModelTest test = new ModelTest(seed);
+        test.fullest();
         for (int i = 0; i < runs; i++) {
             test.run();
         }
@@ -46,12 +47,88 @@ final class ModelTest {
         told = new StringBuilder();
     }
 
+    /** As much of all as there may be, asked at the ends of all rows. */
+    private void fullest() {
+        StringBuilder s = new StringBuilder("sea 12 12;");
+        for (int i = 0; i < 12; i++) {
+            s.append("cape ").append(i).append(' ').append(i * 5 % 11).append(';');
+        }
+        for (int i = 0; i < 5; i++) {
+            s.append("light ").append(11 - i).append(" 11 12 200 ").append(i).append(" neswneswwnow lklkl").append("lk".charAt(i % 2))
+                .append(';');
+        }
+        for (int i = 0; i < 8; i++) {
+            s.append("ship ").append(i).append(" 11 ").append(i + 5).append(';');
+        }
+        s.append("fog 0 1 2 3 4 5 6 7;yields (((((oil<100 or not lit)))))*rank;yields light;yields 0-light*hour;");
+        begin();
+        readText(s.toString());
+        for (int i = 0; i < 50; i++) {
+            int oil = 200 - i;
+            compare("fill 4 " + oil, () -> x.fill(4, oil), () -> y.fill(4, oil));
+        }
+        compare("moor", () -> x.moor(7, 143), () -> y.moor(7, 143));
+        compare("push", () -> x.push(4, 141), () -> y.push(4, 141));
+        for (int i = 0; i < 9; i++) {
+            boolean was = i % 2 == 0;
+            compare("log", () -> x.log(7, 239, 4, was), () -> y.log(7, 239, 4, was));
+        }
+        askOften(4, 7, 239, 9, 2);
+        askOften(0, 0, 0, 0, 0);
+        askOften(3, 6, 23, 5, 1);
+    }
+
+    private void askOften(int light, int ship, int hour, int night, int law) {
+        compare("obey", () -> x.obey(law) ? 1 : 0, () -> y.obey(law));
+        for (int what = 0; what < 4; what++) {
+            int asked = what;
+            compare("ship", () -> x.ship(ship, asked), () -> y.ship(ship, asked));
+            compare("journey", () -> x.journey(light, asked), () -> y.journey(light, asked));
+            compare("begun", () -> x.begun(light, asked), () -> y.begun(light, asked));
+            compare("signs", () -> x.signs(night, asked), () -> y.signs(night, asked));
+            compare("start", () -> x.start(light, asked), () -> y.start(light, asked));
+            compare("mooring", () -> x.mooring(ship, night, asked), () -> y.mooring(ship, night, asked));
+            compare("years", () -> x.years(hour, 40, asked), () -> y.years(hour, 40, asked));
+            compare("game", () -> x.game(light, 1, night, asked, 0), () -> y.game(light, 1, night, asked, 0));
+        }
+        compare("seen", () -> x.seen(ship, hour), () -> y.seen(ship, hour));
+        compare("watch", () -> x.watch(ship, night), () -> y.watch(ship, night));
+        compare("content", () -> x.content(night), () -> y.content(night));
+        compare("met", () -> x.met(light, 1), () -> y.met(light, 1));
+        compare("lamps", () -> x.lamps(night), () -> y.lamps(night));
+        compare("who", () -> x.who(531440, 12), () -> y.who(531440, 12));
+        compare("visits", () -> x.visits(hour), () -> y.visits(hour));
+        compare("visit", () -> x.visit(light, hour), () -> y.visit(light, hour));
+        compare("father", () -> x.father(ship, hour), () -> y.father(ship, hour));
+        compare("brightest", () -> x.brightest(), () -> y.brightest());
+        compare("alone", () -> x.alone(night), () -> y.alone(night));
+        compare("best", () -> x.best(), () -> y.best());
+        compare("sparing", () -> x.sparing(light), () -> y.sparing(light));
+        whereabouts();
+    }
+
+    /** Where all are, which shows what laws give. */
+    private void whereabouts() {
+        for (int law = -1; law < y.count(5); law++) {
+            int asked = law;
+            compare("quarrels " + law, () -> x.quarrels(asked), () -> y.quarrels(asked));
+        }
+        for (int light = 0; light < y.count(3); light++) {
+            int asked = light;
+            for (int hour = 13; hour < 240; hour += 113) {
+                int then = hour;
+                compare("where " + light + " " + hour, () -> x.where(asked, then), () -> y.where(asked, then));
+            }
+        }
+    }
+
     private void run() {
         begin();
         int calls = 60;
         for (int i = 0; i < calls; i++) {
             if (i == 1 || rarely(60)) {
                 readText(drawnCoast());
+                whereabouts();
             }
             if (rarely(150)) {
                 readText(spoilt(drawnCoast()));
@@ -76,8 +153,9 @@ final class ModelTest {
         int w = 8;
         int h = 8;
         if (!rarely(8)) {
-            w = 1 + up(rarely(4) ? 12 : 5);
-            h = 1 + up(rarely(4) ? 12 : 5);
+            // Lights get into each other's way in a small sea alone.
+            w = 1 + up(rarely(4) ? 12 : 4);
+            h = 1 + up(rarely(4) ? 12 : 4);
             s.append("sea ").append(w).append(' ').append(h).append(';');
         }
         int[] marks = new int[w * h];
@@ -85,7 +163,7 @@ final class ModelTest {
         for (int i = 0; i < capes; i++) {
             place(s, "cape", w, h, marks, 7, 1, "");
         }
-        int lights = rarely(3) ? 5 : up(6);
+        int lights = rarely(2) ? 5 : up(6);
         for (int i = 0; i < lights; i++) {
             String rest = " " + (1 + up(12)) + " " + oil() + " " + up(10) + " " + letters("neswo", 12) + " " + letters("lk", 6);
             place(s, "light", w, h, marks, 3, 2, rest);
@@ -308,7 +386,7 @@ final class ModelTest {
             case 28: compare("begun " + light + " " + three, () -> x.begun(light, three), () -> y.begun(light, three)); break;
             case 29:
             case 30: {
-                int much = rarely(12) ? up(120) - 10 : up(20);
+                int much = rarely(12) ? up(120) - 10 : rarely(3) ? 0 : up(20);
                 compare("game " + light + " " + other + " " + night + " " + much + " " + two,
                     () -> x.game(light, other, night, much, two), () -> y.game(light, other, night, much, two));
                 break;

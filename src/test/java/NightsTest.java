@@ -111,14 +111,22 @@ final class NightsTest {
         DUE.is("hour 0", hours.where(0, 1), 1);
         DUE.is("hour 1", hours.where(0, 2), 1);
         DUE.is("hour 2", hours.where(0, 3), 2);
-        // Both want to the right in hours 5, 11, 17 ..: light 0 comes along, if light 1 goes ahead of it.
-        String round = "sea 12 1;light 0 0 1 %s 0 oooooe l;light 1 0 1 %s 0 oooooe l;yields %s;";
-        DUE.is("oil as it is in the hour", DUE.of(String.format(round, 100, 99, "oil")).where(0, 6), 0);
-        DUE.is("lit by day", DUE.of(String.format(round, 0, 99, "lit")).where(0, 6), 0);
-        SailingLights lit = DUE.of(String.format(round, 0, 99, "lit"));
-        DUE.is("lit by night", lit.where(0, 18) - lit.where(0, 17), 1);
-        SailingLights burnt = DUE.of(String.format(round, 6, 0, "light*3-oil"));
-        DUE.is("oil less what it burnt: light 1 ahead at 17", burnt.where(0, 18) - burnt.where(0, 17), 1);
+        // Both want the cell between them in hours 0, 12, 24 .., and go home in hours 11, 23, 35 ..
+        String rivals = "sea 3 1;light 0 0 1 %s 0 eoooooooooow l;light 2 0 1 %s 0 wooooooooooe l;yields %s;";
+        SailingLights lit = DUE.of(String.format(rivals, 0, 13, "lit"));
+        DUE.is("not lit in hour 0: the lesser", lit.where(0, 1), 1);
+        DUE.is("lit in hour 12: light 1", lit.where(1, 13), 1);
+        DUE.is("not lit in hour 24", lit.where(0, 25), 1);
+        DUE.is("the last oil in hour 36", lit.where(1, 37), 1);
+        DUE.is("none in hour 60", lit.where(0, 61), 1);
+        SailingLights burnt = DUE.of(String.format(rivals, 20, 0, "oil*(light=0)+10*light"));
+        DUE.is("20 in hour 12", burnt.where(0, 13), 1);
+        DUE.is("8 in hour 24", burnt.where(1, 25), 1);
+        SailingLights day = DUE.of(String.format(rivals, 0, 0, "(hour=12)*light"));
+        DUE.is("hour 0", day.where(0, 1), 1);
+        DUE.is("hour 12", day.where(1, 13), 1);
+        DUE.is("hour 24 is hour 0", day.where(0, 25), 1);
+        DUE.is("hour 36 is hour 12", day.where(1, 37), 1);
     }
 
     private static void lamps() {

@@ -69,6 +69,20 @@ final class TextTest {
         DUE.is("a cape", x.count(2), 1);
         DUE.is("an empty text", x.coast(0), 0);
         DUE.is("no cape", x.count(2), 0);
+        Due.feedAll(x, "cape 1 15;");
+        DUE.is("a number is cut", x.coast(8), 1);
+        DUE.is("its place", x.fault(), 8);
+        Due.feedAll(x, "yields rank;");
+        DUE.is("a word is cut", x.coast(10), 3);
+        DUE.is("its place", x.fault(), 7);
+        for (String last : new String[] {"x", "1", ";", " "}) {
+            Due.feedAll(x, " ".repeat(699) + last);
+            DUE.is("700 bytes, at last '" + last + "'", x.coast(700), last.equals(" ") ? 0 : 1);
+            DUE.is("its place", x.fault(), last.equals(" ") ? -1 : 699);
+        }
+        Due.feedAll(x, "yields 1" + "+1".repeat(345) + ";");
+        DUE.is("a long law", x.coast(699), 0);
+        DUE.is("one law", x.count(5), 1);
     }
 
     private static void coastMakesAllAnew() {
@@ -85,6 +99,18 @@ final class TextTest {
         DUE.is("the fog is gone", x.watch(0, 0), 12);
         DUE.is("the image is gone", x.restore(), false);
         DUE.is("acts are gone", x.undo(), -1);
+        for (int i = 0; i < 3; i++) {
+            DUE.is("a cape in cell 0", Due.read(x, "cape 0 0;ship 1 1 0;fog 3;yields 1;"), 0);
+            DUE.is("nothing told", Due.read(x, "light 1 0 1 0 0 w l;"), 0);
+            DUE.is("no cape", x.where(0, 1), 0);
+            DUE.is("no ship", x.count(4), 0);
+            DUE.is("no law", x.count(6), -1);
+        }
+        String[] laws = {"rank", "0-rank", "0-rank*2"};
+        for (int i = 0; i < 9; i++) {
+            Due.read(x, "light 0 0 1 0 3 e l;light 1 0 1 0 7 e l;yields " + laws[i % 3] + ";");
+            DUE.is("the law that was read last, " + laws[i % 3], x.where(0, 1), i % 3 == 0 ? 1 : 0);
+        }
     }
 
     private static void faultLeavesAll() {
@@ -115,6 +141,13 @@ final class TextTest {
         DUE.faulty(";", 1, 0);
         DUE.faulty("5;", 1, 0);
         DUE.faulty("capes 1 1;", 1, 0);
+        DUE.faulty("capez 1 1;", 1, 0);
+        DUE.faulty("dape 1 1;", 1, 0);
+        DUE.faulty("cape 1 1;acape 1 2;", 1, 9);
+        DUE.faulty("`cape 1 1;", 1, 0);
+        DUE.faulty("cape{ 1 1;", 1, 4);
+        DUE.faulty("cape /1 1;", 1, 5);
+        DUE.faulty("cape :1 1;", 1, 5);
         DUE.faulty("cape", 1, 4);
         DUE.faulty("cape 1", 1, 6);
         DUE.faulty("cape 1 \n ", 1, 9);
