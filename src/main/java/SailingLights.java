@@ -425,8 +425,8 @@ public final class SailingLights {
         for (int couple = 0; couple < 4; couple++) {
             boolean burns = couple >= 2;
             boolean otherBurns = (couple & 1) == 1;
-            if (isContentWith(light, burns, other, otherBurns, night, much)
-                    && isContentWith(other, otherBurns, light, burns, night, much)) {
+            if (wouldKeepChoice(light, burns, other, otherBurns, night, much)
+                    && wouldKeepChoice(other, otherBurns, light, burns, night, much)) {
                 resting++;
                 if (first == NONE) {
                     first = (burns ? 10 : 0) + (otherBurns ? 1 : 0);
@@ -742,7 +742,7 @@ public final class SailingLights {
         trial.look(chart, guess, views);
     }
 
-    private boolean isContentWith(int light, boolean burns, int other, boolean otherBurns, int night, int much) {
+    private boolean wouldKeepChoice(int light, boolean burns, int other, boolean otherBurns, int night, int much) {
         int byThis = gain(light, burns, other, otherBurns, night) - (burns ? much : 0);
         int byThat = gain(light, !burns, other, otherBurns, night) - (burns ? 0 : much);
         return byThis >= byThat;
