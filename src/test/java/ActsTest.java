@@ -25,6 +25,7 @@ final class ActsTest {
     }
 
     private static void fill() {
+        DUE.promise(14);
         SailingLights x = DUE.of(COAST);
         DUE.is("fill(0, 12)", x.fill(0, 12), 100);
         DUE.is("as told", x.light(0, 2), 12);
@@ -41,6 +42,7 @@ final class ActsTest {
     }
 
     private static void moor() {
+        DUE.promise(15);
         SailingLights x = DUE.of(COAST);
         refused(x, "a cape", x.moor(0, 9), 1);
         refused(x, "another ship", x.moor(0, 11), 2);
@@ -57,6 +59,7 @@ final class ActsTest {
     }
 
     private static void push() {
+        DUE.promise(16);
         SailingLights x = DUE.of(COAST);
         refused(x, "a cape", x.push(0, 9), 1);
         refused(x, "another light", x.push(0, 23), 2);
@@ -73,6 +76,7 @@ final class ActsTest {
     }
 
     private static void obey() {
+        DUE.promise(17);
         SailingLights x = DUE.of("light 0 0 1 0 3 e l;light 2 0 1 0 7 w l;yields 0-rank;yields 5;");
         DUE.is("law 0 at first", x.count(6), 0);
         DUE.is("light 0 ahead", x.where(0, 1), 1);
@@ -93,6 +97,7 @@ final class ActsTest {
     }
 
     private static void want() {
+        DUE.promise(18);
         SailingLights x = DUE.of(COAST);
         DUE.is("want(0, 12)", x.want(0, 12), 3);
         DUE.is("ship(0, 1)", x.ship(0, 1), 12);
@@ -106,6 +111,7 @@ final class ActsTest {
     }
 
     private static void undo() {
+        DUE.promise(19);
         SailingLights x = DUE.of(COAST);
         DUE.is("nothing to undo", x.undo(), -1);
         DUE.is("it is no refused act", x.count(11), 0);
@@ -136,6 +142,7 @@ final class ActsTest {
     }
 
     private static void fortyActs() {
+        DUE.promise(19);
         SailingLights x = DUE.of(COAST);
         for (int i = 1; i <= 45; i++) {
             DUE.is("fill " + i, x.fill(0, i), i == 1 ? 100 : i - 1);
@@ -187,6 +194,7 @@ final class ActsTest {
     }
 
     private static void log() {
+        DUE.promise(28);
         SailingLights x = DUE.of(COAST);
         DUE.missing("log(2, 0, 0)", () -> x.log(2, 0, 0, true));
         DUE.missing("log(0, 240, 0)", () -> x.log(0, 240, 0, true));
@@ -200,12 +208,14 @@ final class ActsTest {
         DUE.is("status 2 stays", x.count(12), 1);
         DUE.is("how much", x.count(8), 8);
         DUE.is("no act", x.count(7), 0);
+        DUE.promise(29);
         x.forget();
         DUE.is("forgotten", x.count(8), 0);
         DUE.is("log anew", x.log(0, 12, 0, true), 1);
     }
 
     private static void falsely() {
+        DUE.promise(30);
         SailingLights x = DUE.of(COAST);
         DUE.is("an empty log", x.falsely(), 0);
         x.log(0, 12, 0, true);
@@ -221,6 +231,7 @@ final class ActsTest {
     }
 
     private static void begun() {
+        DUE.promise(31);
         SailingLights x = DUE.of("sea 5 1;cape 4 0;light 0 0 1 200 0 o l;light 1 0 1 200 0 o l;ship 3 0 0;");
         DUE.is("an empty log: all cells but a cape and the other's", x.begun(0, 0), 3);
         DUE.is("the least", x.begun(0, 1), 0);
@@ -248,6 +259,7 @@ final class ActsTest {
     }
 
     private static void image() {
+        DUE.promise(41);
         SailingLights x = DUE.of(COAST);
         DUE.is("no image", x.restore(), false);
         x.want(0, 12);
@@ -260,6 +272,7 @@ final class ActsTest {
         x.obey(1);
         x.fill(0, 201);
         x.log(0, 2, 0, false);
+        DUE.promise(42);
         DUE.is("restore()", x.restore(), true);
         DUE.is("oil", x.light(0, 2), 100);
         DUE.is("ship", x.ship(0, 0), 2);
@@ -287,6 +300,7 @@ final class ActsTest {
 
     /** Acts and log entries that were put in the places of those in the image don't change them. */
     private static void imageKeepsActsAndLog() {
+        DUE.promise(42);
         SailingLights x = DUE.of(COAST);
         x.fill(0, 50);
         x.want(1, 7);

@@ -24,6 +24,7 @@ final class BetterTest {
     }
 
     private static void compared() {
+        DUE.promise(25);
         DUE.is("compared(-1)", DUE.of(COAST).compared(-1), 200);
         SailingLights x = DUE.of(RIVALS + "yields 0-rank;yields rank;");
         DUE.is("by none", x.compared(-1), 0);
@@ -36,6 +37,7 @@ final class BetterTest {
     }
 
     private static void best() {
+        DUE.promise(26);
         DUE.is("without laws", DUE.of(COAST).best(), -1);
         DUE.is("law 1", DUE.of(RIVALS + "yields rank;yields 0-rank;yields 0-light;").best(), 1);
         DUE.is("none ahead of like ones", DUE.of(RIVALS + "yields rank;yields light;").best(), -1);
@@ -43,6 +45,7 @@ final class BetterTest {
     }
 
     private static void mooring() {
+        DUE.promise(27);
         SailingLights x = DUE.of(COAST);
         DUE.is("mooring(0, 0, 0)", x.mooring(0, 0, 0), 0);
         DUE.is("mooring(0, 0, 1)", x.mooring(0, 0, 1), 12);
@@ -63,6 +66,7 @@ final class BetterTest {
     }
 
     private static void game() {
+        DUE.promise(32);
         SailingLights x = DUE.of(COAST);
         DUE.is("game: couples", x.game(0, 1, 0, 4, 0), 1);
         DUE.is("game: the first", x.game(0, 1, 0, 4, 1), 10);
@@ -94,6 +98,7 @@ final class BetterTest {
     }
 
     private static void years() {
+        DUE.promise(33);
         SailingLights x = DUE.of("ship 0 0 0;ship 1 0 1;");
         DUE.is("without lights: together", x.years(5, 3, 0), 3);
         DUE.is("without lights: the fewest", x.years(5, 3, 1), 1);
@@ -121,6 +126,7 @@ final class BetterTest {
     }
 
     private static void father() {
+        DUE.promise(34);
         SailingLights x = DUE.of("light 0 0 9 200 0 o l;light 4 0 9 5 0 o l;light 3 0 1 200 0 o l;ship 2 0 0;ship 6 3 0;");
         DUE.is("the nearest", x.father(0, 12), 2);
         DUE.is("by day none", x.father(0, 11), -1);
@@ -133,6 +139,7 @@ final class BetterTest {
     }
 
     private static void journey() {
+        DUE.promise(35);
         SailingLights x = DUE.of(COAST);
         DUE.is("travels", x.journey(0, 0), 5);
         DUE.is("stuck", x.journey(0, 1), 234);
@@ -148,6 +155,7 @@ final class BetterTest {
     }
 
     private static void brightest() {
+        DUE.promise(36);
         DUE.is("brightest()", DUE.of(COAST).brightest(), 0);
         SailingLights x = DUE.of("light 0 0 9 10 0 o l;light 1 0 9 11 0 o l;light 2 0 9 11 0 o l;ship 0 0 0;ship 7 7 0;");
         DUE.is("the most, of like ones the least", x.brightest(), 1);
@@ -156,6 +164,7 @@ final class BetterTest {
     }
 
     private static void sparing() {
+        DUE.promise(37);
         SailingLights x = DUE.of(COAST);
         DUE.is("sparing(0)", x.sparing(0), 100);
         DUE.is("sparing(1)", x.sparing(1), 0);
@@ -169,6 +178,7 @@ final class BetterTest {
     }
 
     private static void start() {
+        DUE.promise(38);
         SailingLights x = DUE.of(COAST);
         DUE.is("start(1, 0)", x.start(1, 0), 1);
         DUE.is("start(1, 1)", x.start(1, 1), 200);
@@ -184,6 +194,7 @@ final class BetterTest {
     }
 
     private static void alone() {
+        DUE.promise(39);
         SailingLights x = DUE.of("light 0 0 2 200 0 o l;light 2 0 2 5 0 o l;ship 0 0 0;ship 1 0 0;ship 4 0 0;ship 7 7 0;"
             + "ship 0 2 0;");
         DUE.is("one ship sees light 1 alone", x.alone(0), 1);
@@ -193,6 +204,7 @@ final class BetterTest {
     }
 
     private static void quarrels() {
+        DUE.promise(40);
         SailingLights x = DUE.of("light 0 0 1 0 3 e l;light 1 0 1 0 7 w l;");
         DUE.is("face to face", x.quarrels(-1), 478);
         DUE.missing("quarrels(0)", () -> x.quarrels(0));

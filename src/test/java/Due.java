@@ -8,6 +8,8 @@ final class Due {
     }
 
     private final String name;
+    private Quotes quotes = null;
+    private String about = "";
     private int looked = 0;
     private int wrong = 0;
 
@@ -15,11 +17,31 @@ final class Due {
         this.name = name;
     }
 
+    /** A test that quotes the document: what it quotes must stand there, and in the end nothing may be left. */
+    Due(String name, Quotes quotes) {
+        this.name = name;
+        this.quotes = quotes;
+    }
+
+    /** What follows is a test of this promise. */
+    void promise(int number) {
+        about = "promise " + number + ": ";
+    }
+
+    /** What follows is a test of these words, of the promise itself or of the terms that it uses. */
+    void promise(int number, String words) {
+        promise(number);
+        if (quotes != null) {
+            is("the document has '" + words + "'", quotes.quote(number, words), true);
+        }
+        about = "promise " + number + ", '" + words + "': ";
+    }
+
     void is(String call, long got, long want) {
         looked++;
         if (got != want) {
             wrong++;
-            System.out.println(name + ": " + call + " answered " + got + ", due is " + want);
+            System.out.println(name + ": " + about + call + " answered " + got + ", due is " + want);
         }
     }
 
@@ -47,7 +69,7 @@ final class Due {
             got = "threw " + e.getClass().getSimpleName();
         }
         wrong++;
-        System.out.println(name + ": " + call + " " + got + ", due is " + want.getSimpleName());
+        System.out.println(name + ": " + about + call + " " + got + ", due is " + want.getSimpleName());
     }
 
     /** Reads a text whose fault is due, at a place. */
@@ -81,6 +103,12 @@ final class Due {
     }
 
     void end() {
+        about = "";
+        if (quotes != null) {
+            for (String left : quotes.left()) {
+                is("a test of '" + left + "'", false, true);
+            }
+        }
         System.out.println(name + ": " + looked + " looked at, " + wrong + " wrong");
         if (wrong != 0) {
             System.exit(1);

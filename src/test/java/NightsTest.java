@@ -22,6 +22,7 @@ final class NightsTest {
     }
 
     private static void ships() {
+        DUE.promise(7);
         SailingLights x = DUE.of(COAST);
         int[] want = {2, 3, 9, 20};
         for (int what = 0; what < want.length; what++) {
@@ -46,6 +47,7 @@ final class NightsTest {
     }
 
     private static void ways() {
+        DUE.promise(8);
         SailingLights x = DUE.of("sea 4 3;cape 2 0;light 0 0 1 0 0 es l;");
         int[] want = {0, 1, 5, 6, 10, 11, 11};
         for (int hour = 0; hour < want.length; hour++) {
@@ -78,6 +80,7 @@ final class NightsTest {
     }
 
     private static void laws() {
+        DUE.promise(8);
         law("rank", 1);
         law("0-rank", 0);
         law("oil", 1);
@@ -130,6 +133,7 @@ final class NightsTest {
     }
 
     private static void lamps() {
+        DUE.promise(9);
         SailingLights x = DUE.of(COAST);
         DUE.is("lamp(1, 12, 0)", x.lamp(1, 12, 0), 3);
         DUE.is("lamp(1, 14, 0)", x.lamp(1, 14, 0), 1);
@@ -147,6 +151,7 @@ final class NightsTest {
     }
 
     private static void sights() {
+        DUE.promise(10);
         SailingLights x = DUE.of(COAST);
         DUE.is("seen(1, 12)", x.seen(1, 12), 3);
         DUE.is("seen(0, 11)", x.seen(0, 11), 0);
@@ -173,6 +178,7 @@ final class NightsTest {
     }
 
     private static void watches() {
+        DUE.promise(11);
         SailingLights x = DUE.of(COAST);
         DUE.is("watch(0, 7)", x.watch(0, 7), 12);
         DUE.is("watch(0, 8)", x.watch(0, 8), 4);
@@ -183,6 +189,7 @@ final class NightsTest {
     }
 
     private static void content() {
+        DUE.promise(12);
         SailingLights x = DUE.of("light 0 0 3 200 0 o l;ship 0 0 12;ship 7 7 1;ship 7 6 0;");
         DUE.is("content(0)", x.content(0), 5);
         DUE.missing("content(10)", () -> x.content(10));
@@ -190,6 +197,7 @@ final class NightsTest {
     }
 
     private static void meetings() {
+        DUE.promise(13);
         SailingLights x = DUE.of("sea 9 2;light 0 0 1 0 0 e l;light 8 1 1 0 0 w l;light 4 0 1 0 0 o l;");
         DUE.is("met(0, 1)", x.met(0, 1), 4);
         DUE.is("met(1, 0)", x.met(1, 0), 4);
@@ -203,6 +211,7 @@ final class NightsTest {
     }
 
     private static void fewestLamps() {
+        DUE.promise(20);
         String three = "light 0 0 2 200 0 o l;light 2 0 2 200 0 o l;light 4 0 2 200 0 o l;";
         DUE.is("one for both", DUE.of(three + "ship 1 0 12;ship 3 0 12;").lamps(0), 2);
         DUE.is("two for both ends", DUE.of(three + "ship 0 2 1;ship 6 0 1;").lamps(0), 5);
@@ -218,6 +227,7 @@ final class NightsTest {
     }
 
     private static void signs() {
+        DUE.promise(21);
         SailingLights x = DUE.of("light 0 0 2 200 0 o lk;light 2 0 2 12 0 o lk;light 4 0 2 200 0 o lk;light 7 7 1 200 0 o l;"
             + "ship 1 0 0;ship 3 0 0;");
         DUE.is("signs(0, 0)", x.signs(0, 0), 2);
@@ -243,6 +253,7 @@ final class NightsTest {
     }
 
     private static void who() {
+        DUE.promise(22);
         SailingLights x = DUE.of("light 0 0 1 0 0 o lkk;light 1 0 1 0 0 o lk;light 2 0 1 0 0 o l;light 3 0 1 0 0 o llkkkk;");
         DUE.is("long", x.who(1, 1), 15);
         DUE.is("short", x.who(0, 1), 11);
@@ -265,6 +276,7 @@ final class NightsTest {
     private static final String COUPLES = "sea 12 12;light 0 0 5 0 0 o l;light 6 0 5 0 0 o l;ship 1 1 0;ship 5 1 0;";
 
     private static void visits() {
+        DUE.promise(23);
         DUE.is("visits(0)", DUE.of(COUPLES).visits(0), 1);
         // Reach less far orders all couples alike for both sides, so there is never a second stable matching.
         SailingLights two = DUE.of("sea 12 3;light 0 0 1 0 0 o l;light 7 0 3 0 0 o l;ship 3 0 0;ship 4 0 0;");
@@ -276,6 +288,7 @@ final class NightsTest {
     }
 
     private static void visit() {
+        DUE.promise(24);
         SailingLights x = DUE.of(COUPLES);
         DUE.is("visit(0, 0)", x.visit(0, 0), 0);
         DUE.is("visit(1, 0)", x.visit(1, 0), 1);

@@ -21,6 +21,7 @@ final class TextTest {
     }
 
     private static void newObject() {
+        DUE.promise(1);
         SailingLights x = new SailingLights();
         int[] want = {8, 8, 0, 0, 0, 0, -1, 0, 0, 0, 0, 0, 0};
         for (int what = 0; what < want.length; what++) {
@@ -36,6 +37,7 @@ final class TextTest {
     }
 
     private static void tape() {
+        DUE.promise(2);
         SailingLights x = new SailingLights();
         for (int i = 1; i <= 35; i++) {
             DUE.is("feed " + i, x.feed(0x20202020, 0x20202020, 0x20202020, 0x20202020, 0x20202020), 20 * i);
@@ -56,6 +58,7 @@ final class TextTest {
     }
 
     private static void coastTakesFirstBytes() {
+        DUE.promise(3);
         SailingLights x = new SailingLights();
         DUE.unfit("coast(1) of an empty tape", () -> x.coast(1));
         Due.feedAll(x, "cape 1 1;rubbish");
@@ -86,6 +89,7 @@ final class TextTest {
     }
 
     private static void coastMakesAllAnew() {
+        DUE.promise(3);
         SailingLights x = DUE.of("sea 5 3;cape 1 1;light 0 0 1 9 1 e l;ship 2 2 3;fog 9;yields 1;");
         x.fill(0, 201);
         x.fill(0, 7);
@@ -114,12 +118,14 @@ final class TextTest {
     }
 
     private static void faultLeavesAll() {
+        DUE.promise(3);
         SailingLights x = DUE.of("sea 5 3;light 0 0 1 9 1 e l;ship 2 2 3;yields 1;yields 2;");
         x.fill(0, 7);
         x.image();
         x.obey(1);
         x.log(0, 0, 0, true);
         DUE.is("a fault", Due.read(x, "sea 9 9;light 0 0 3 3 3 x l;"), 3);
+        DUE.promise(4);
         DUE.is("its place", x.fault(), 24);
         int[] want = {5, 3, 0, 1, 1, 2, 1, 2, 1, 0, 1, 0, 0};
         for (int what = 0; what < want.length; what++) {
@@ -136,6 +142,7 @@ final class TextTest {
     }
 
     private static void shapeFaults() {
+        DUE.promise(3);
         DUE.faulty("x;", 1, 0);
         DUE.faulty("Cape 1 1;", 1, 0);
         DUE.faulty(";", 1, 0);
@@ -170,6 +177,7 @@ final class TextTest {
     }
 
     private static void numberFaults() {
+        DUE.promise(3);
         DUE.faulty("cape 00001 1;", 2, 5);
         DUE.faulty("cape 12345678901234567890 1;", 2, 5);
         DUE.faulty("x 12345", 1, 0);
@@ -191,6 +199,7 @@ final class TextTest {
     }
 
     private static void tooManyFaults() {
+        DUE.promise(3);
         StringBuilder s = new StringBuilder();
         for (int i = 0; i < 12; i++) {
             s.append("cape ").append(i % 8).append(' ').append(i / 8).append(';');
@@ -218,6 +227,7 @@ final class TextTest {
     }
 
     private static void wordFaults() {
+        DUE.promise(3);
         DUE.faulty("light 0 0 1 1 1 neswox l;", 3, 16);
         DUE.faulty("light 0 0 1 1 1 neswoneswones l;", 2, 16);
         DUE.faulty("light 0 0 1 1 1 neswoneswonex l;", 3, 16);
@@ -229,6 +239,7 @@ final class TextTest {
     }
 
     private static void cellFaults() {
+        DUE.promise(3);
         String light = "light 2 1 1 1 1 e l;";
         DUE.faulty(light + "light 2 1 1 1 1 e l;", 4, 28);
         DUE.faulty(light + "cape 2 1;", 4, 27);
@@ -242,6 +253,7 @@ final class TextTest {
     }
 
     private static void lawFaults() {
+        DUE.promise(3);
         DUE.faulty("yields;", 1, 6);
         DUE.faulty("yields -1;", 1, 7);
         DUE.faulty("yields 1", 1, 8);
@@ -278,6 +290,7 @@ final class TextTest {
     }
 
     private static void textsWithoutFault() {
+        DUE.promise(3);
         DUE.is("blanks ahead", DUE.of(" \n sea 2 3;\n").count(1), 3);
         DUE.is("no blanks", DUE.of("sea6 4;cape1 0001;").count(0), 6);
         DUE.of("yields (((((1)))));");
@@ -290,6 +303,7 @@ final class TextTest {
     }
 
     private static void counts() {
+        DUE.promise(5);
         SailingLights x = DUE.of("sea 5 3;cape 1 1;cape 2 2;light 0 0 1 9 1 e l;ship 2 0 3;yields 1;yields 2;yields 3;");
         x.fill(0, 1);
         x.fill(0, 2);
@@ -305,6 +319,7 @@ final class TextTest {
     }
 
     private static void lights() {
+        DUE.promise(6);
         SailingLights x = DUE.of("sea 5 3;light 3 2 7 150 4 neo kllk;light 0 0 1 0 0 o l;");
         int[] want = {13, 7, 150, 4, 3, 4, 6};
         for (int what = 0; what < want.length; what++) {
