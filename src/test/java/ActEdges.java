@@ -236,36 +236,44 @@ final class ActEdges {
         }
     }
 
-    /** Acts of all five kinds by turns: what is undone of 45 leaves what the first five did. */
+    private void actOf(SailingLights x, int i) {
+        int round = i / 5;
+        switch (i % 5) {
+            case 0: due.is("fill", x.fill(round % 2, 10 + round) >= 0, true); break;
+            case 1: due.is("moor", x.moor(round % 2, 12 + round) >= 0, true); break;
+            case 2: due.is("push", x.push(round % 2, 12 + round) >= 0, true); break;
+            case 3: due.is("obey", x.obey(round % 3 - 1), true); break;
+            default: due.is("want", x.want(round % 2, round) >= 0, true); break;
+        }
+    }
+
+    /** Acts of all five kinds by turns: with forty undone all is as behind those ahead of them. */
     private void fortyOfAllKinds() {
         due.promise(19, "ACTS (at most 40 are kept, the latest ones):");
-        SailingLights x = due.of(COAST);
-        String five = "";
-        for (int i = 0; i < 45; i++) {
-            int round = i / 5;
-            switch (i % 5) {
-                case 0: due.is("fill", x.fill(round % 2, 10 + round) >= 0, true); break;
-                case 1: due.is("moor", x.moor(round % 2, 12 + round) >= 0, true); break;
-                case 2: due.is("push", x.push(round % 2, 12 + round) >= 0, true); break;
-                case 3: due.is("obey", x.obey(round % 3 - 1), true); break;
-                default: due.is("want", x.want(round % 2, round) >= 0, true); break;
+        for (int gone = 0; gone <= 12; gone++) {
+            SailingLights x = due.of(COAST);
+            String[] states = new String[60];
+            for (int i = 0; i < gone + 40; i++) {
+                states[i] = things(x);
+                actOf(x, i);
             }
-            five = i == 4 ? state(x) : five;
+            for (int left = 39; left >= 0; left--) {
+                due.is("left", x.undo(), left);
+                due.is("as ahead of the act", things(x).equals(states[gone + left]), true);
+            }
+            due.is("no more", x.undo(), -1);
+            due.is("as ahead of the forty", things(x).equals(states[gone]), true);
         }
-        String full = state(x);
-        x.undo();
-        x.want(0, 8);
-        due.is("forty again", state(x).equals(full), true);
-        for (int left = 39; left >= 0; left--) {
-            due.is("left", x.undo(), left);
+    }
+
+    /** What acts change, and nothing else. */
+    private static String things(SailingLights x) {
+        StringBuilder s = new StringBuilder().append(x.count(6));
+        for (int which = 0; which < 2; which++) {
+            s.append(' ').append(x.light(which, 0)).append(' ').append(x.light(which, 2)).append(' ').append(x.ship(which, 0)).append(' ')
+                .append(x.ship(which, 1));
         }
-        due.is("no more", x.undo(), -1);
-        x.want(0, 0);
-        x.want(0, 0);
-        x.want(0, 0);
-        x.want(0, 0);
-        x.want(0, 0);
-        due.is("as behind the first five", state(x).equals(five), true);
+        return s.toString();
     }
 
     private void log() {
@@ -445,6 +453,7 @@ final class ActEdges {
         due.is("the second", x.restore(), true);
         due.is("in place of the first", x.light(0, 2), 7);
         due.is("and no more", x.count(7), 2);
+        imageOfOtherActs();
         SailingLights none = new SailingLights();
         none.image();
         due.is("an image of nothing", none.restore(), true);
@@ -469,6 +478,62 @@ final class ActEdges {
             due.is("left", full.undo(), left);
         }
         due.is("the oil behind the first act", full.light(0, 2), 1);
+    }
+
+    /** Acts and entries of the log that came in the places of those in the image don't change it. */
+    private void imageOfOtherActs() {
+        SailingLights x = due.of(COAST);
+        for (int i = 0; i < 5; i++) {
+            actOf(x, i);
+        }
+        x.log(0, 12, 0, true);
+        x.log(1, 11, 0, false);
+        x.log(0, 10, 1, true);
+        int wrong = x.falsely();
+        due.is("one is false", wrong, 1);
+        x.image();
+        for (int i = 0; i < 5; i++) {
+            x.undo();
+        }
+        for (int i = 8; i < 13; i++) {
+            actOf(x, i);
+        }
+        x.forget();
+        for (int i = 0; i < 3; i++) {
+            x.log(1, 239 - i, 1, i != 1);
+        }
+        x.restore();
+        due.is("the log", x.falsely(), wrong);
+        SailingLights same = due.of(COAST);
+        for (int i = 0; i < 5; i++) {
+            actOf(same, i);
+        }
+        for (int left = 4; left >= 0; left--) {
+            due.is("left", x.undo(), left);
+            same.undo();
+            due.is("as if nothing had been between", things(x).equals(things(same)), true);
+        }
+        logOfImage(0, 12, 0, true);
+        logOfImage(1, 12, 0, true);
+        logOfImage(0, 13, 1, false);
+        logOfImage(0, 5, 0, false);
+    }
+
+    /** An entry is as true as it was, behind another one in its place that differs in one thing. */
+    private void logOfImage(int ship, int hour, int light, boolean was) {
+        for (int other = 0; other < 4; other++) {
+            SailingLights x = due.of("light 0 0 3 200 0 o l;light 7 7 3 200 0 o l;ship 1 1 0;ship 6 6 0;");
+            x.log(ship, hour, light, was);
+            int wrong = x.falsely();
+            x.image();
+            x.forget();
+            x.log(other == 0 ? 1 - ship : ship, other == 1 ? (hour + 12) % 240 : hour, other == 2 ? 1 - light : light, was != (other == 3));
+            x.restore();
+            due.is("the entry", x.falsely(), wrong);
+            x.fill(0, 0);
+            x.fill(1, 0);
+            due.is("without oil it is so only if it was not seen", x.falsely(), was ? 1 : 0);
+        }
     }
 
     private void restore() {

@@ -176,6 +176,15 @@ final class BetterEdges {
             gameIs(String.format(alone, 200), night, 4, 1, 10);
             gameIs(String.format(alone, 1), night, 6, 1, 0);
         }
+        // Whether they have oil or not: what doesn't burn isn't seen.
+        for (int oil : new int[] {0, 1, 200}) {
+            for (int otherOil : new int[] {0, 1, 200}) {
+                String near = "sea 12 12;light 0 0 1 " + oil + " 0 o l;light 2 0 1 " + otherOil + " 0 o l;ship 1 0 0;";
+                gameIs(near, 0, 4, 2, 1);
+                gameIs(near, 9, 4, 2, 1);
+                gameIs(near + "ship 0 0 0;", 0, 4, 1, 10);
+            }
+        }
         SailingLights x = due.of(String.format(RIVALS, 0) + "yields lit*(light=0);");
         due.is("all go as ever: it would be ahead, were it lit", x.game(0, 1, 0, 1, 0), 1);
         due.is("it isn't, so light 1 is seen", x.where(1, 13), 2);

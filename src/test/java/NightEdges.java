@@ -491,6 +491,13 @@ final class NightEdges {
         visitsAre("sea 12 1;light 0 0 1 0 0 e l;ship 0 0 0;ship 11 0 0;", 0, 0);
         visitsAre("sea 12 1;light 0 0 1 0 0 e l;ship 0 0 0;ship 11 0 0;", 6, 1);
         visitsAre("sea 12 1;light 0 0 1 0 0 e l;ship 0 0 0;ship 11 0 0;", 239, 1);
+        SailingLights alone = due.of("sea 12 1;light 0 0 1 0 0 e l;ship 0 0 0;ship 11 0 0;");
+        due.is("asked at first", alone.visit(0, 9), 1);
+        due.is("in another hour", alone.visit(0, 3), 0);
+        alone.moor(0, 10);
+        due.is("moored", alone.visit(0, 3), 0);
+        alone.moor(1, 2);
+        due.is("the other is nearer", alone.visit(0, 3), 1);
         due.promise(24, "all anybody rather than nobody.");
         visitsAre("sea 12 12;light 0 0 1 0 0 o l;ship 11 11 0;", 0, 0);
         visitsAre("sea 12 12;light 0 0 1 0 0 o l;light 1 0 1 0 0 o l;ship 1 1 0;ship 11 11 0;", 0, 0, 1);

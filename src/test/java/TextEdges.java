@@ -15,6 +15,7 @@ final class TextEdges {
         edges.feedPutsTwentyBytes();
         edges.feedRefusesBeyond700();
         edges.coastTakesFirstBytes();
+        edges.coastMakesAllAnew();
         edges.coastWithFaultLeavesAll();
         edges.coastForgets();
         edges.coastThrows();
@@ -159,6 +160,44 @@ final class TextEdges {
         Due.feedAll(x, "yields 12345;       ");
         due.is("all five", x.coast(12), 2);
         due.is("at the number", x.fault(), 7);
+    }
+
+    /** Whatever was told and done before, nothing of it is left in the next coast, nor in the one behind it. */
+    private void coastMakesAllAnew() {
+        due.promise(3, "all anew");
+        String full = capeRow(12) + row("light %d 1 12 200 9 eeeeeeeeeeee llllll;", 5) + row("ship %d 11 12;", 8)
+            + "fog 9 9 9 9 9 9 9 9;yields 1;yields 0-rank;yields 2;";
+        String small = "light 1 0 1 1 0 w k;ship 0 0 1;";
+        SailingLights x = new SailingLights();
+        for (int i = 0; i < 4; i++) {
+            due.is("a full one", Due.read(x, full), 0);
+            counts(x, 12, 12, 12, 5, 8, 3, 0, 0, 0, 0, 0, 0, 0);
+            due.is("where light 0 goes", x.where(0, 1), 12);
+            due.is("nothing is seen", x.content(0), 0);
+            x.obey(2);
+            x.fill(4, 5);
+            x.log(7, 239, 4, true);
+            x.image();
+            due.is("a small one", Due.read(x, small), 0);
+            counts(x, 8, 8, 0, 1, 1, 0, -1, 0, 0, 0, 0, 0, 0);
+            due.is("its way", x.where(0, 1), 0);
+            due.is("its steps", x.light(0, 4), 1);
+            due.is("its sign", x.light(0, 6), 0);
+            due.is("no fog", x.content(0), 1);
+            due.is("no log", x.falsely(), 0);
+            due.is("no act", x.undo(), -1);
+            due.is("no image", x.restore(), false);
+            x.want(0, 5);
+            x.log(0, 0, 0, true);
+            x.image();
+            due.is("an empty one", Due.read(x, i % 2 == 0 ? "" : "yields 0-light;"), 0);
+            counts(x, 8, 8, 0, 0, 0, i % 2, i % 2 - 1, 0, 0, 0, 0, 0, 0);
+        }
+        String[] laws = {"light", "0-light", "light*2", "0-light*2", "1+light", "1-light"};
+        for (int i = 0; i < 12; i++) {
+            Due.read(x, "light 0 0 1 0 3 e l;light 1 0 1 0 7 e l;yields " + laws[i % 6] + ";");
+            due.is("the law that was read last", x.where(0, 1), i % 2 == 0 ? 1 : 0);
+        }
     }
 
     private void coastWithFaultLeavesAll() {
@@ -525,6 +564,15 @@ final class TextEdges {
         due.faulty("cape 1 1;shipp 1 1 0;", 1, 9);
         due.faulty("yields ranks;", 3, 7);
         due.faulty("yields notrank;", 3, 7);
+        for (String other : new String[] {"dape", "capd", "cepe", "cap", "eight", "lighs", "whip", "shin", "dog", "foe", "yielde", "fields", "tea"}) {
+            due.faulty(other + " 1 1 1;", 1, 0);
+        }
+        for (String other : new String[] {"bank", "rant", "oi", "oid", "ail", "night", "lights", "four", "hous", "peach", "lip", "bit", "mot", "non"}) {
+            due.faulty("yields " + other + ";", 3, 7);
+        }
+        for (String other : new String[] {"xr", "ox", "o", "orr", "an", "ana", "xnd", "any"}) {
+            due.faulty("yields 1 " + other + " 2;", 1, 9);
+        }
         due.is("a number ends a word", due.of("yields not1or2;").count(5), 1);
         due.promise(3, "NUMBERS (1 to 4 digits)");
         due.is("four digits", due.of("sea 0007 0012;").count(0), 7);
