@@ -21,6 +21,7 @@ final class ArgumentEdges {
         edges.acting();
         edges.bettering();
         edges.withoutAny();
+        edges.fullest();
     }
 
     /**
@@ -190,5 +191,51 @@ final class ArgumentEdges {
         due.is("quarrels(-1)", none.quarrels(-1), 0);
         due.promise(15);
         due.is("none of these was refused as an act", none.count(11), 0);
+    }
+
+    /** As many lights and ships as there may be, too far off to be seen, or all in sight: asked of the last ones. */
+    private void fullest() {
+        for (int reach : new int[] {1, 12}) {
+            StringBuilder s = new StringBuilder("sea 12 12;");
+            for (int i = 0; i < 5; i++) {
+                s.append("light ").append(i).append(" 0 ").append(reach).append(" 200 0 o l;");
+            }
+            for (int i = 0; i < 8; i++) {
+                s.append("ship ").append(i).append(" 11 12;");
+            }
+            int near = reach == 12 ? 1 : 0;
+            SailingLights full = due.of(s.toString());
+            due.promise(7);
+            due.is("dark", full.ship(7, 3), 120 - 120 * near);
+            due.is("unseen", full.ship(7, 2), -near);
+            due.promise(10);
+            due.is("seen in the last hour", full.seen(7, 239), 31 * near);
+            due.promise(11);
+            due.is("watch in the last night", full.watch(7, 9), 12 * near);
+            due.promise(12);
+            due.is("content in the last night", full.content(9), 255 * near);
+            due.promise(20);
+            due.is("lamps in the last night", full.lamps(9), near);
+            due.promise(21);
+            due.is("signs in the last night", full.signs(9, 0), 1 + 4 * near);
+            due.is("couples in the last night", full.signs(9, 1), 10 * near);
+            due.promise(27);
+            due.is("mooring in the last night", full.mooring(7, 9, 1), 12);
+            due.is("the first cell is near a light", full.mooring(7, 9, 0), 0);
+            due.promise(35);
+            due.is("shows", full.journey(4, 2), 960 * near);
+            due.promise(39);
+            due.is("alone in the last night", full.alone(9), 0);
+            full.fill(0, 0);
+            full.fill(1, 0);
+            full.fill(2, 0);
+            full.fill(3, 0);
+            due.is("the last light alone", full.alone(9), 8 * near);
+            due.promise(34);
+            due.is("the last light is his father", full.father(7, 239), near == 1 ? 4 : -1);
+            due.promise(27);
+            full.fill(4, 0);
+            due.is("nothing is seen anywhere", full.mooring(7, 9, 1), 0);
+        }
     }
 }

@@ -140,6 +140,11 @@ final class LawEdges {
         holds("((0-3) and (0-4))=1", true);
         holds("(4096*4096*256 or 0)=0", true);
         holds("5 and 7 and 0-1", true);
+        due.is("a law of a not alone", first("not light", 0, 0, 0), 0);
+        due.is("a law of two nots alone", first("not not light", 0, 0, 0), 1);
+        due.is("a law of six nots alone", first("not not not not not not (light*9)", 0, 0, 0), 1);
+        due.is("a law of a value alone", first("light", 0, 0, 0), 1);
+        due.is("a law of a number alone", first("9999", 0, 0, 0), 0);
     }
 
     private void rankLightReach() {
