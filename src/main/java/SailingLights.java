@@ -322,10 +322,12 @@ public final class SailingLights {
 
     public int compared(int law) throws NoSuchElementException {
         needLawOrNone(law);
+        settle();
         return sumByLaw(law);
     }
 
     public int best() {
+        settle();
         int bestLaw = NONE;
         int most = sumByLaw(NONE);
         for (int law = 0; law < chart.laws.told; law++) {
@@ -707,7 +709,6 @@ public final class SailingLights {
     }
 
     private int sumByLaw(int law) {
-        settle();
         trialTurns.plan(chart, stand, law);
         trial.sail(chart, stand, trialTurns, HOURS);
         trial.look(chart, stand, views);
@@ -862,11 +863,11 @@ public final class SailingLights {
         }
 
         int columnOf(int cell) {
-            return remainder(cell, width);
+            return width <= 0 ? 0 : cell % width;
         }
 
         int rowOf(int cell) {
-            return quotient(cell, width);
+            return width <= 0 ? 0 : cell / width;
         }
 
         int stepOf(int light, int hour) {
@@ -1605,17 +1606,13 @@ public final class SailingLights {
                 }
             } else if (isDigit(text[place])) {
                 kind = NUMBER;
-                readDigits();
+                number = 0;
+                for (; behind < length && isDigit(text[behind]); behind++) {
+                    number = behind - place < MOST_DIGITS ? number * 10 + text[behind] - '0' : TOO_LONG;
+                }
             } else {
                 kind = ";()+-*/<=".indexOf((char) text[place]) >= 0 ? text[place] : NO_TOKEN;
                 behind = place + 1;
-            }
-        }
-
-        private void readDigits() {
-            number = 0;
-            for (; behind < length && isDigit(text[behind]); behind++) {
-                number = behind - place < MOST_DIGITS ? number * 10 + text[behind] - '0' : TOO_LONG;
             }
         }
 
@@ -1636,11 +1633,11 @@ public final class SailingLights {
         }
 
         boolean isWord(String word) {
-            if (kind != WORD || letters() != word.length()) {
+            if (kind != WORD || behind - place != word.length()) {
                 return false;
             }
-            for (int i = 0; i < word.length(); i++) {
-                if (letterAt(i) != word.charAt(i)) {
+            for (int i = 0; i < word.length() && place + i < length; i++) {
+                if (text[place + i] != word.charAt(i)) {
                     return false;
                 }
             }
@@ -1844,10 +1841,11 @@ public final class SailingLights {
         }
 
         private int readCell(int mark, int barred) {
-            int x = readNumber(0, chart.width - 1);
+            int x = numberHere(0, chart.width - 1);
             if (x == NONE) {
                 return NONE;
             }
+            tokens.next();
             int y = numberHere(0, chart.height - 1);
             if (y == NONE) {
                 return NONE;

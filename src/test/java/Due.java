@@ -28,6 +28,11 @@ final class Due {
         about = "promise " + number + ": ";
     }
 
+    /** What follows is a test of a rule of LANGUAGE.md. */
+    void rule(int number, String words) {
+        about = "rule " + number + ", " + words + ": ";
+    }
+
     /** What follows is a test of these words, of the promise itself or of the terms that it uses. */
     void promise(int number, String words) {
         promise(number);
